@@ -194,14 +194,14 @@ public final class OrreryWorks {
     Pointer put = pointerAt(pointer);
     if (bearer == null || put == null && pointer != NONE) return refuse(BAD);
     if (bearer.sort == ROW_OF_SHOWING || put != null && put.sort == LAMP) return refuse(CAST);
-    return put(bearer, i, put);
+    return putAt(bearer, i, put);
   }
 
   public int hang(int stand, int i, int pointer) {
     Stand bearer = standAt(stand);
     Pointer put = pointerAt(pointer);
     if (bearer == null || put == null && pointer != NONE) return refuse(BAD);
-    return put(bearer, i, put);
+    return putAt(bearer, i, put);
   }
 
   public long show(int stand, int i) {
@@ -284,7 +284,7 @@ public final class OrreryWorks {
     return number >= 0 && number < standCount ? stands[number] : null;
   }
 
-  private int put(Stand bearer, int i, Pointer put) {
+  private int putAt(Stand bearer, int i, Pointer put) {
     if (!bearer.hasPlace(i)) return refuse(INDEX);
     if (put != null && !bearer.isWideFor(put.sort)) return refuse(STORE);
     bearer.places[i] = put;
@@ -440,7 +440,7 @@ public final class OrreryWorks {
     static boolean isVoid(int kind, int what, long x, long y) {
       boolean endlessX = isEndless(kind, x);
       boolean endlessY = isEndless(kind, y);
-      boolean sameSign = x < 0L == y < 0L;
+      boolean sameSign = (x ^ y) >= 0L;
       switch (what) {
         case PLUS: return endlessX && endlessY && !sameSign;
         case LESS: return endlessX && endlessY && sameSign;
