@@ -329,6 +329,13 @@ public final class PromisesTest {
     x.load(3, 3, bits(ENDLESS));
     due(10, "rest by an endless one", x.work(4, 2, 3, 3), 1);
     due(10, "read", x.read(3, 3), bits(-1.5));
+    x.load(3, 3, bits(2.0));
+    x.register(3);
+    for (long least = 1; least <= 64; least++) {
+      x.load(4, 3, least);
+      due(10, "rest by one of the least doubles", x.work(4, 3, 4, 4), 1);
+      due(10, "read, by " + least, x.read(4, 3), bits(2.0 % Double.longBitsToDouble(least)));
+    }
     x.load(2, 2, bits(-6.0f));
     due(10, "rest 0 keeps the sign", x.work(4, 2, 0, 2), 1);
     due(10, "read", x.read(2, 2), bits(-0.0f));

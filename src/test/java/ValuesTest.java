@@ -53,7 +53,7 @@ public final class ValuesTest {
   }
 
   private static Number value(Random random) {
-    switch (random.nextInt(8)) {
+    switch (random.nextInt(10)) {
       case 0: return random.nextInt() >> random.nextInt(32);
       case 1: return random.nextLong() >> random.nextInt(64);
       case 2: return number(Float.intBitsToFloat(random.nextInt()));
@@ -61,7 +61,10 @@ public final class ValuesTest {
       case 4: return (float) (random.nextInt(4000) - 2000) / (1 << random.nextInt(12));
       case 5: return (double) (random.nextInt(4000) - 2000) / (1 << random.nextInt(12));
       case 6: return Float.intBitsToFloat(random.nextInt() & 0x81ffffff);
-      default: return Double.longBitsToDouble(random.nextLong() & 0x801fffffffffffffL);
+      case 7: return Double.longBitsToDouble(random.nextLong() & 0x801fffffffffffffL);
+      // The least ones: a rest by them goes through small whole numbers, 0 and 1 among them.
+      case 8: return Float.intBitsToFloat(random.nextInt() & 0x8000003f);
+      default: return Double.longBitsToDouble(random.nextLong() & 0x800000000000003fL);
     }
   }
 
