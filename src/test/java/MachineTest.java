@@ -9,8 +9,9 @@ import java.util.Random;
  * call, must be the same.
  */
 public final class MachineTest {
-  private static final int RUNS = 6000;
-  private static final int CALLS = 512;
+  private static final int RUNS = 12000;
+  /** Each is followed by refused(): 512 calls in all, for what later ones answer is free. */
+  private static final int CALLS = 256;
 
   public static void main(String[] args) {
     int wrong = 0;
@@ -43,9 +44,10 @@ public final class MachineTest {
         long[] a = arguments(call < 40 ? chooseEarly() : random.nextInt(23));
         long got = onProgram(a);
         long due = onModel(a);
-        if (got != due || program.refused() != model.refused()) {
+        int refused = program.refused();
+        if (got != due || refused != model.refused()) {
           System.out.println("seed " + seed + ", call " + call + " " + Arrays.toString(a) + " answered " + got
-              + " (refused " + program.refused() + "), due is " + due + " (refused " + model.refused() + ")");
+              + " (refused " + refused + "), due is " + due + " (refused " + model.refused() + ")");
           return 1;
         }
         if (a[0] < 20) seen[-model.refused()]++;
