@@ -356,26 +356,6 @@ public final class MachineTest {
       return (int) kind;
     }
 
-    private static int kindOf(Number value) {
-      return value instanceof Integer ? 0 : value instanceof Long ? 1 : value instanceof Float ? 2 : 3;
-    }
-
-    /** The boxes' own casts are the language's. */
-    private static Number cast(Number value, int kind) {
-      switch (kind) {
-        case 0: return value.intValue();
-        case 1: return value.longValue();
-        case 2: return value.floatValue();
-        default: return value.doubleValue();
-      }
-    }
-
-    private static long bits(Number value) {
-      if (value instanceof Float) return Float.floatToIntBits((Float) value);
-      if (value instanceof Double) return Double.doubleToLongBits((Double) value);
-      return value.longValue();
-    }
-
     private static double told(long bits) {
       double value = Double.longBitsToDouble(bits);
       need(!Double.isNaN(value), -2);
@@ -412,18 +392,18 @@ public final class MachineTest {
     private long wheelOf(long number, long what) {
       Wheel wheel = wheels.get(at(number, wheels));
       need(what == 0 || what == 1, -2);
-      return bits(what == 0 ? wheel.position() : wheel.turn());
+      return Language.bits(what == 0 ? wheel.position() : wheel.turn());
     }
 
     private long register(long kind) {
-      Number zero = cast(0, kind(kind));
+      Number zero = Language.cast(0, kind(kind));
       need(registers.size() < 16, -3);
       registers.add(zero);
       return registers.size() - 1;
     }
 
     private void hold(int register, Number value) {
-      registers.set(register, cast(value, kindOf(registers.get(register))));
+      registers.set(register, Language.cast(value, Language.kindOf(registers.get(register))));
     }
 
     private long load(long register, long kind, long bits) {
@@ -441,14 +421,14 @@ public final class MachineTest {
     }
 
     private long read(long register, long kind) {
-      return bits(cast(registers.get(at(register, registers)), kind(kind)));
+      return Language.bits(Language.cast(registers.get(at(register, registers)), kind(kind)));
     }
 
     private long move(long from, long to) {
       Number value = registers.get(at(from, registers));
       int target = at(to, registers);
       hold(target, value);
-      return bits(cast(registers.get(target), kindOf(value))) == bits(value) ? 1 : 0;
+      return Language.bits(Language.cast(registers.get(target), Language.kindOf(value))) == Language.bits(value) ? 1 : 0;
     }
 
     private long take(long wheel, long register) {
@@ -462,33 +442,11 @@ public final class MachineTest {
       Number x = registers.get(at(a, registers));
       Number y = registers.get(at(b, registers));
       int target = at(to, registers);
-      int kind = Math.max(kindOf(x), kindOf(y));
-      Number came;
-      switch (kind) {
-        case 0: came = ints((int) what, x.intValue(), y.intValue()); break;
-        case 1: came = longs((int) what, x.longValue(), y.longValue()); break;
-        case 2: came = floats((int) what, x.floatValue(), y.floatValue()); break;
-        default: came = doubles((int) what, x.doubleValue(), y.doubleValue());
-      }
+      int kind = Math.max(Language.kindOf(x), Language.kindOf(y));
+      Number came = Language.worked((int) what, kind, x, y);
       need(!Double.isNaN(came.doubleValue()), -5);
       hold(target, came);
       return 1;
-    }
-
-    private static int ints(int what, int x, int y) {
-      return what == 0 ? x + y : what == 1 ? x - y : what == 2 ? x * y : what == 3 ? x / y : x % y;
-    }
-
-    private static long longs(int what, long x, long y) {
-      return what == 0 ? x + y : what == 1 ? x - y : what == 2 ? x * y : what == 3 ? x / y : x % y;
-    }
-
-    private static float floats(int what, float x, float y) {
-      return what == 0 ? x + y : what == 1 ? x - y : what == 2 ? x * y : what == 3 ? x / y : x % y;
-    }
-
-    private static double doubles(int what, double x, double y) {
-      return what == 0 ? x + y : what == 1 ? x - y : what == 2 ? x * y : what == 3 ? x / y : x % y;
     }
 
     private long strip(long lane, long n) {
@@ -521,10 +479,10 @@ public final class MachineTest {
     private long kept(long strip, long lane, int i) {
       Object row = strips.get(at(strip, strips));
       switch (kind(lane)) {
-        case 0: return bits(((int[]) row)[i]);
-        case 1: return bits(((long[]) row)[i]);
-        case 2: return bits(((float[]) row)[i]);
-        default: return bits(((double[]) row)[i]);
+        case 0: return Language.bits(((int[]) row)[i]);
+        case 1: return Language.bits(((long[]) row)[i]);
+        case 2: return Language.bits(((float[]) row)[i]);
+        default: return Language.bits(((double[]) row)[i]);
       }
     }
 

@@ -42,6 +42,7 @@ public final class RefusalsTest {
     hang();
     show();
     all();
+    allAreThere();
     nothingIsThere();
     sentences.end();
   }
@@ -464,6 +465,30 @@ public final class RefusalsTest {
 
   private static void all() {
     for (int stand : NO_STANDS) refuses("all: BAD: no such", BAD, x -> x.all(stand));
+  }
+
+  /** With as many of all as there may be, the number after the last one is that of no such thing. */
+  private static void allAreThere() {
+    Sentences.Check most = x -> {
+      for (int i = 0; i < 10; i++) x.wheel(3, Trial.d(2.0));
+      for (int i = 0; i < 16; i++) x.register(3);
+      for (int i = 0; i < 8; i++) x.strip(3, 1);
+      for (int i = 0; i < 12; i++) x.pointer(1, 9);
+      for (int i = 0; i < 8; i++) x.stand(1, 1);
+      x.turn(9, Trial.d(1.5));
+      x.take(9, 15);
+      x.keep(7, 3, 0, 15);
+      x.set(7, 0, 11);
+    };
+    Sentences.Call[] calls = {
+      x -> x.turn(10, 0L), x -> x.wheelOf(10, 0), x -> x.take(10, 15), x -> x.load(16, 0, 0L), x -> x.read(16, 0),
+      x -> x.move(16, 15), x -> x.move(15, 16), x -> x.take(9, 16), x -> x.work(0, 16, 15, 15),
+      x -> x.work(0, 15, 16, 15), x -> x.work(0, 15, 15, 16), x -> x.tear(8), x -> x.keep(8, 3, 0, 15),
+      x -> x.keep(7, 3, 0, 16), x -> x.kept(8, 3, 0), x -> x.rests(8, 15), x -> x.rests(7, 16), x -> x.set(8, 0, 11),
+      x -> x.set(7, 0, 12), x -> x.set(8, 0, NONE), x -> x.hang(8, 0, 11), x -> x.hang(7, 0, 12),
+      x -> x.hang(8, 0, NONE), x -> x.show(8, 0), x -> x.all(8)};
+    for (Sentences.Call call : calls) sentences.refuses("BAD: no such", BAD, most, call);
+    sentences.refuses("pointer: BAD, then FULL", BAD, most, x -> x.pointer(1, 10));
   }
 
   /** On a new object every number is that of no such thing. */

@@ -28,13 +28,14 @@ public final class ValuesTest {
     if (pair == 0) {
       for (int i = 0; i < 12; i++) x.register(i % 4);
     }
-    int first = kindOf(a);
-    int second = 4 + kindOf(b);
-    due("load " + a, x.load(first, first, bits(a)), 1);
-    due("load " + b, x.load(second, second - 4, bits(b)), 1);
+    int first = Language.kindOf(a);
+    int second = 4 + Language.kindOf(b);
+    due("load " + a, x.load(first, first, Language.bits(a)), 1);
+    due("load " + b, x.load(second, second - 4, Language.bits(b)), 1);
     for (int kind = 0; kind <= 3; kind++) {
-      due(a + " as " + kind, x.read(first, kind), bits(cast(a, kind)));
-      due(a + " to " + kind, x.move(first, 8 + kind), bits(cast(cast(a, kind), first)) == bits(a) ? 1 : 0);
+      due(a + " as " + kind, x.read(first, kind), Language.bits(Language.cast(a, kind)));
+      Number back = Language.cast(Language.cast(a, kind), first);
+      due(a + " to " + kind, x.move(first, 8 + kind), Language.bits(back) == Language.bits(a) ? 1 : 0);
     }
     for (int what = 0; what <= 4; what++) {
       Number came = worked(what, Math.max(first, second - 4), a, b);
@@ -44,10 +45,10 @@ public final class ValuesTest {
       } else {
         int to = 8 + what % 4;
         due(call, x.work(what, first, second, to), 1);
-        due(call + ", read", x.read(to, to - 8), bits(cast(came, to - 8)));
+        due(call + ", read", x.read(to, to - 8), Language.bits(Language.cast(came, to - 8)));
         int same = 8 + Math.max(first, second - 4);
         x.work(what, first, second, same);
-        due(call + ", read whole", x.read(same, same - 8), bits(came));
+        due(call + ", read whole", x.read(same, same - 8), Language.bits(came));
       }
     }
   }
@@ -76,50 +77,10 @@ public final class ValuesTest {
     return Double.isNaN(value) ? Double.NEGATIVE_INFINITY : value;
   }
 
-  private static int kindOf(Number value) {
-    return value instanceof Integer ? 0 : value instanceof Long ? 1 : value instanceof Float ? 2 : 3;
-  }
-
-  private static Number cast(Number value, int kind) {
-    switch (kind) {
-      case 0: return value.intValue();
-      case 1: return value.longValue();
-      case 2: return value.floatValue();
-      default: return value.doubleValue();
-    }
-  }
-
-  private static long bits(Number value) {
-    if (value instanceof Float) return Float.floatToIntBits((Float) value);
-    if (value instanceof Double) return Double.doubleToLongBits((Double) value);
-    return value.longValue();
-  }
-
   /** Null where nothing comes of it. */
   private static Number worked(int what, int kind, Number a, Number b) {
     if (kind <= 1 && what >= 3 && b.longValue() == 0L) return null;
-    Number came = came(what, kind, a, b);
+    Number came = Language.worked(what, kind, a, b);
     return Double.isNaN(came.doubleValue()) ? null : came;
-  }
-
-  private static Number came(int what, int kind, Number a, Number b) {
-    if (kind == 0) {
-      int x = a.intValue();
-      int y = b.intValue();
-      return what == 0 ? x + y : what == 1 ? x - y : what == 2 ? x * y : what == 3 ? x / y : x % y;
-    }
-    if (kind == 1) {
-      long x = a.longValue();
-      long y = b.longValue();
-      return what == 0 ? x + y : what == 1 ? x - y : what == 2 ? x * y : what == 3 ? x / y : x % y;
-    }
-    if (kind == 2) {
-      float x = a.floatValue();
-      float y = b.floatValue();
-      return what == 0 ? x + y : what == 1 ? x - y : what == 2 ? x * y : what == 3 ? x / y : x % y;
-    }
-    double x = a.doubleValue();
-    double y = b.doubleValue();
-    return what == 0 ? x + y : what == 1 ? x - y : what == 2 ? x * y : what == 3 ? x / y : x % y;
   }
 }

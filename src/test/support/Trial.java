@@ -1,3 +1,6 @@
+import java.util.ArrayList;
+import java.util.List;
+
 /**
  * One object under trial: its calls are written down, so that a wrong answer is told with the run that led to it. More
  * than 512 calls are never asked of it, since what they answer is free.
@@ -13,6 +16,20 @@ final class Trial {
   private int calls = 0;
   private int wrong = 0;
   private boolean anyNumber = false;
+  private final List<Row> strips = new ArrayList<>();
+  /** By stands, at which places something was put. */
+  private final List<boolean[]> stands = new ArrayList<>();
+
+  private static final class Row {
+    final int lane;
+    final int places;
+    boolean gone = false;
+
+    Row(int lane, int places) {
+      this.lane = lane;
+      this.places = places;
+    }
+  }
 
   Trial(String sentence) {
     this.sentence = sentence;
@@ -91,7 +108,10 @@ final class Trial {
     return oftens;
   }
 
-  /** All that can be seen of what the object holds, but for what is counted of refusals. */
+  /**
+   * All that can be seen of what the object holds, but for what is counted of refusals. Nothing is asked that would be
+   * refused, or what a refusal changes could hide behind that; only what is bare is asked for, at the end.
+   */
   String state() {
     StringBuilder text = new StringBuilder();
     int[] counts = new int[5];
@@ -104,35 +124,33 @@ final class Trial {
       text.append("R ");
       for (int kind = 0; kind <= 3; kind++) text.append(read(i, kind)).append(' ');
     }
-    for (int i = 0; i < counts[2]; i++) addStrip(text, i);
-    for (int i = 0; i < counts[4]; i++) addStand(text, i);
+    for (int i = 0; i < stands.size(); i++) addBorne(text.append("T "), i);
+    for (int i = 0; i < strips.size(); i++) addStrip(text.append("S "), i);
+    for (int i = 0; i < stands.size(); i++) addBare(text.append("B "), i);
     return text.toString();
   }
 
   private void addStrip(StringBuilder text, int strip) {
-    text.append("S ");
-    int lane = -1;
-    int why = OrreryWorks.CAST;
-    while (why == OrreryWorks.CAST && lane < 4) {
-      kept(strip, ++lane, 0);
-      why = refused();
+    Row row = strips.get(strip);
+    if (row.gone) {
+      text.append("gone ").append(tear(strip)).append(' ');
+      return;
     }
-    text.append("lane ").append(lane).append(' ');
-    for (int i = 0; why == 0; i++) {
-      long bits = kept(strip, lane, i);
-      if (bits == 0) why = refused();
-      if (why == 0) text.append(bits).append(' ');
-    }
-    text.append(why).append(' ');
+    for (int i = 0; i < row.places; i++) text.append(kept(strip, row.lane, i)).append('/').append(refused()).append(' ');
   }
 
-  private void addStand(StringBuilder text, int stand) {
-    text.append("T ");
-    int why = 0;
-    for (int i = 0; why != OrreryWorks.INDEX && why != OrreryWorks.BAD; i++) {
-      long shown = show(stand, i);
-      why = shown == 0 ? refused() : 0;
-      text.append(shown).append('/').append(why).append(' ');
+  private void addBorne(StringBuilder text, int stand) {
+    boolean[] borne = stands.get(stand);
+    for (int i = 0; i < borne.length; i++) {
+      if (borne[i]) text.append(show(stand, i)).append('/').append(refused()).append(' ');
+    }
+    text.append(all(stand)).append(' ');
+  }
+
+  private void addBare(StringBuilder text, int stand) {
+    boolean[] borne = stands.get(stand);
+    for (int i = 0; i < borne.length; i++) {
+      if (!borne[i]) text.append(show(stand, i)).append('/').append(refused()).append(' ');
     }
   }
 
@@ -173,11 +191,15 @@ final class Trial {
   }
 
   long strip(int lane, int n) {
-    return note("strip", false, works.strip(lane, n), lane, n);
+    long number = note("strip", false, works.strip(lane, n), lane, n);
+    if (number == strips.size()) strips.add(new Row(lane, n));
+    return number;
   }
 
   long tear(int strip) {
-    return note("tear", false, works.tear(strip), strip);
+    long answer = note("tear", false, works.tear(strip), strip);
+    if (answer == 1) strips.get(strip).gone = true;
+    return answer;
   }
 
   long keep(int strip, int lane, int i, int register) {
@@ -197,15 +219,22 @@ final class Trial {
   }
 
   long stand(int sort, int n) {
-    return note("stand", false, works.stand(sort, n), sort, n);
+    long number = note("stand", false, works.stand(sort, n), sort, n);
+    if (number == stands.size()) stands.add(new boolean[n]);
+    return number;
   }
 
   long set(int stand, int i, int pointer) {
-    return note("set", false, works.set(stand, i, pointer), stand, i, pointer);
+    return put(note("set", false, works.set(stand, i, pointer), stand, i, pointer), stand, i, pointer);
   }
 
   long hang(int stand, int i, int pointer) {
-    return note("hang", false, works.hang(stand, i, pointer), stand, i, pointer);
+    return put(note("hang", false, works.hang(stand, i, pointer), stand, i, pointer), stand, i, pointer);
+  }
+
+  private long put(long answer, int stand, int i, int pointer) {
+    if (answer == 1) stands.get(stand)[i] = pointer != OrreryWorks.NONE;
+    return answer;
   }
 
   long show(int stand, int i) {
