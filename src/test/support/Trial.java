@@ -19,6 +19,7 @@ final class Trial {
   private final List<Row> strips = new ArrayList<>();
   /** By stands, at which places something was put. */
   private final List<boolean[]> stands = new ArrayList<>();
+  private int standOfAll = OrreryWorks.NONE;
 
   private static final class Row {
     final int lane;
@@ -127,6 +128,7 @@ final class Trial {
     for (int i = 0; i < stands.size(); i++) addBorne(text.append("T "), i);
     for (int i = 0; i < strips.size(); i++) addStrip(text.append("S "), i);
     for (int i = 0; i < stands.size(); i++) addBare(text.append("B "), i);
+    addPointers(text.append("P "), counts[3]);
     return text.toString();
   }
 
@@ -151,6 +153,15 @@ final class Trial {
     boolean[] borne = stands.get(stand);
     for (int i = 0; i < borne.length; i++) {
       if (!borne[i]) text.append(show(stand, i)).append('/').append(refused()).append(' ');
+    }
+  }
+
+  /** Each is hung on a stand that takes all, if there is one: this is the last look at the object. */
+  private void addPointers(StringBuilder text, int pointers) {
+    if (standOfAll < 0) return;
+    for (int i = 0; i < pointers; i++) {
+      hang(standOfAll, 0, i);
+      text.append(show(standOfAll, 0)).append(' ');
     }
   }
 
@@ -220,7 +231,10 @@ final class Trial {
 
   long stand(int sort, int n) {
     long number = note("stand", false, works.stand(sort, n), sort, n);
-    if (number == stands.size()) stands.add(new boolean[n]);
+    if (number == stands.size()) {
+      stands.add(new boolean[n]);
+      if (sort == 3) standOfAll = (int) number;
+    }
     return number;
   }
 
