@@ -11,7 +11,8 @@ public final class ValuesTest {
     OrreryWorks x = null;
     for (int pair = 0; pair < PAIRS && wrong < 20; pair++) {
       if (pair % PAIRS_AN_OBJECT == 0) x = new OrreryWorks();
-      check(x, pair % PAIRS_AN_OBJECT, value(random), value(random));
+      Number a = value(random);
+      check(x, pair % PAIRS_AN_OBJECT, a, random.nextInt(5) == 0 ? like(a, random) : value(random));
     }
     System.out.println(wrong == 0 ? "all values are as the language's" : wrong + " values went wrong");
     if (wrong != 0) System.exit(1);
@@ -54,7 +55,7 @@ public final class ValuesTest {
   }
 
   private static Number value(Random random) {
-    switch (random.nextInt(10)) {
+    switch (random.nextInt(13)) {
       case 0: return random.nextInt() >> random.nextInt(32);
       case 1: return random.nextLong() >> random.nextInt(64);
       case 2: return number(Float.intBitsToFloat(random.nextInt()));
@@ -65,8 +66,48 @@ public final class ValuesTest {
       case 7: return Double.longBitsToDouble(random.nextLong() & 0x801fffffffffffffL);
       // The least ones: a rest by them goes through small whole numbers, 0 and 1 among them.
       case 8: return Float.intBitsToFloat(random.nextInt() & 0x8000003f);
-      default: return Double.longBitsToDouble(random.nextLong() & 0x800000000000003fL);
+      case 9: return Double.longBitsToDouble(random.nextLong() & 0x800000000000003fL);
+      case 10: return longAmidFloats(random);
+      case 11: return doubleAmidFloats(random);
+      default: return atAnEnd(random);
     }
+  }
+
+  /** By chance alone, hardly a long or a double comes where the cast to a float rounds the other way, or ties. */
+  private static Number longAmidFloats(Random random) {
+    int shift = 1 + random.nextInt(39);
+    long whole = (long) (0x800000 | random.nextInt(0x800000)) << shift;
+    long amid = whole + (1L << shift - 1) + random.nextInt(3) - 1;
+    return random.nextBoolean() ? amid : -amid;
+  }
+
+  private static Number doubleAmidFloats(Random random) {
+    int least = random.nextInt() & (random.nextInt(4) == 0 ? 0xffffff : 0x7fffffff);
+    int bits = random.nextInt(16) == 0 ? 0x7f7fffff : Math.min(least, 0x7f7fffff);
+    double below = Float.intBitsToFloat(bits);
+    // What would come after the greatest float, were there one.
+    double above = bits == 0x7f7fffff ? 0x1p128 : Float.intBitsToFloat(bits + 1);
+    double amid = nudged((below + above) / 2, random);
+    return random.nextBoolean() ? amid : -amid;
+  }
+
+  private static Number atAnEnd(Random random) {
+    double[] ends = {Integer.MIN_VALUE, Integer.MIN_VALUE - 1.0, Integer.MAX_VALUE, 0x1p31, 0x1p32, -0x1p63, 0x1p63, 0x1p64,
+      0x1p53, Double.MAX_VALUE, Double.MIN_NORMAL, Double.MIN_VALUE, Float.MAX_VALUE, Float.MIN_NORMAL, Float.MIN_VALUE};
+    double end = nudged(ends[random.nextInt(ends.length)], random);
+    return random.nextInt(4) == 0 ? (Number) (float) end : (Number) end;
+  }
+
+  private static double nudged(double value, Random random) {
+    int way = random.nextInt(3);
+    return way == 0 ? value : way == 1 ? Math.nextUp(value) : Math.nextDown(value);
+  }
+
+  /** A value whose quotient with the first one is whole, or nearly so: rests are 0 or very small there, or nearly all. */
+  private static Number like(Number a, Random random) {
+    double by = (random.nextInt(8) + 1) * Math.scalb(1.0, random.nextInt(5) * 31);
+    double near = nudged(random.nextBoolean() ? a.doubleValue() / by : -a.doubleValue(), random);
+    return a instanceof Float ? (Number) (float) near : number(near);
   }
 
   private static Number number(float value) {
